@@ -914,13 +914,17 @@ public final class ClientMoneyBook {
         }
 
         int get(int row, int column) {
-            return isCell(row, column) ? cells[row * COLUMNS + column] : 0;
+            if (row < 0 || row >= size || row >= MOST_ROWS || column < 0 || column >= COLUMNS) {
+                return 0;
+            }
+            return cells[row * COLUMNS + column];
         }
 
         void set(int row, int column, int value) {
-            if (isCell(row, column)) {
-                cells[row * COLUMNS + column] = value;
+            if (row < 0 || row >= size || row >= MOST_ROWS || column < 0 || column >= COLUMNS) {
+                return;
             }
+            cells[row * COLUMNS + column] = value;
         }
 
         int countOf(int client) {
@@ -949,10 +953,6 @@ public final class ClientMoneyBook {
                 sum += get(row, column);
             }
             return sum;
-        }
-
-        private boolean isCell(int row, int column) {
-            return row >= 0 && row < size && row < MOST_ROWS && column >= 0 && column < COLUMNS;
         }
     }
 
@@ -1060,10 +1060,12 @@ public final class ClientMoneyBook {
 
     /** The text: its first syntax error, and its orders one after the other. */
     private static final class OrderText {
+        private static final String ORDERS = "rptbsd";
+
         int length = 0;
         private final char[] characters = new char[MOST_CHARACTERS];
         private int position = 0;
-        /** The order that was read last: its letter and its numbers. */
+        // the order that was read last: its letter and its numbers
         char letter = 0;
         int first = 0;
         int second = 0;
@@ -1091,7 +1093,7 @@ public final class ClientMoneyBook {
             for (int i = 0; i < length; i++) {
                 char next = at(i);
                 if (order == 0) {
-                    if (!isOrder(next)) {
+                    if (ORDERS.indexOf(next) < 0) {
                         return i;
                     }
                     order = next;
@@ -1150,20 +1152,6 @@ public final class ClientMoneyBook {
 
         private static boolean isDigit(char character) {
             return character >= '0' && character <= '9';
-        }
-
-        private static boolean isOrder(char character) {
-            switch (character) {
-                case 'r':
-                case 'p':
-                case 't':
-                case 'b':
-                case 's':
-                case 'd':
-                    return true;
-                default:
-                    return false;
-            }
         }
 
         /** The sign behind a number of an order: the one before its next number, or ';' behind the last. */

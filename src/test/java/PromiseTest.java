@@ -200,6 +200,12 @@ public final class PromiseTest {
         due("undo()", x.undo(), 5);
         due("clients()", x.clients(), 11);
         due("of(41, 0)", x.of(41, 0), NO_SUCH);
+        // the count of interest starts at 0: one less than a cent is no cent
+        x = with(1);
+        x.setRates(FULL, 1, 0);
+        x.receive(1, 3649999);
+        x.pass(1);
+        due("of(1, 3)", x.of(1, 3), 0);
     }
 
     static void close() {
