@@ -252,9 +252,14 @@ public final class BoundaryTest {
 
     // The call is not refused and saves one state, and undo restores all of it but the text.
     static void undoes(String run, String call) {
-        run(run + call + " undo()");
-        same(run + ">> " + call + " undo() is not the book of before",
-            portrait(run + call + " undo() clearText() "), portrait(run + "clearText() "));
+        restored(run, call + " undo() ");
+    }
+
+    // No call is refused, and after the last one all but the text is as it was before the first one.
+    static void restored(String run, String calls) {
+        run(run + calls);
+        same(run + ">> " + calls + "is not the book of before",
+            portrait(run + calls + "clearText() "), portrait(run + "clearText() "));
     }
 
     // ---- what stands before the promises
@@ -267,6 +272,10 @@ public final class BoundaryTest {
     static final String RICH = "open(1) open(2) open(40) setRates(50000, 365, 730) setThreshold(3) receive(1, 90000) "
         + "receive(2, 70000) pass(17) hold(1, 500, 20) hold(2, 700, 3) bill(1, 400) bill(2, 90000) settle(1) "
         + "transfer(1, 2, 3000) pay(1, 100) reverse(5) pass(20) bill(2, 30) write(r1:5;d3) ";
+    // as many clients, holds, bills and kept entries as there can be, the next entry takes the place of 23
+    static final String CROWDED = "setRates(FULL, 365, 0) setThreshold(0) "
+        + times(1, 12, "open(#) receive(#, 1000000)")
+        + times(1, 15, "hold(3, #, 99) bill(12, #)") + "34 * receive(12, 5) 3 * setThreshold(0) 3 * undo() ";
     static final String DAYS_80 = "d1;".repeat(26) + "d1";
 
     static void whatItIs() {
@@ -413,6 +422,9 @@ public final class BoundaryTest {
         says("Then the current day becomes 1 more.",
             "pass(1) day() = 1 pass(1) day() = 2",
             ONE_RATE + "receive(1, 10000) pass(30) day() = 30 entry(2, 0) = 30");
+    }
+
+    static void credits() {
         says("If the new day is a multiple of 30, interest is credited to each client, by ascending numbers:",
             "open(9) open(2) open(5) setRates(FULL, 365, 0) receive(9, 10000) receive(2, 20000) receive(5, 30000) "
                 + "pass(29) = 0 entries() = 3 pass(1) = 180 entries() = 6 entry(4, 2) = 2 entry(5, 2) = 5 "
@@ -440,6 +452,8 @@ public final class BoundaryTest {
             "open(1) setRates(FULL, 365, 0) receive(1, 6667) pass(30) = 20 of(1, 0) = 6687 of(1, 3) = 0",
             ONE_RATE + "setThreshold(30) receive(1, 10000) pass(30) = 30 of(1, 3) = 0",
             ONE_RATE + "setThreshold(31) receive(1, 10000) pass(30) = 0 of(1, 3) = 30 pass(30) = 60 of(1, 0) = 10060",
+            ONE_RATE + "setThreshold(1) receive(1, 334) pass(30) = 1",
+            ONE_RATE + "setThreshold(1) receive(1, 333) pass(30) = 0",
             ONE_RATE + "setThreshold(10000) receive(1, 3333333) pass(30) = 0",
             ONE_RATE + "setThreshold(10000) receive(1, 3333334) pass(30) = 10000",
             "open(1) setRates(FULL, 2000, 0) " + FILL_1 + "pay(1, 19) pass(30) = 0 of(1, 0) = 999999981",
@@ -450,6 +464,8 @@ public final class BoundaryTest {
         says("An interest of 0 is not credited.",
             "open(1) setThreshold(0) receive(1, 1) pass(30) = 0 entries() = 1 of(1, 5) = 0 pass(370) = 0 entries() = 1",
             "open(1) setThreshold(0) pass(30) = 0 entries() = 0 of(1, 5) = 0",
+            ONE_RATE + "receive(1, 333) pass(30) = 0 entries() = 1 of(1, 5) = 0",
+            ONE_RATE + "receive(1, 334) pass(30) = 1 entries() = 2 of(1, 5) = 30",
             "open(1) setThreshold(0) " + FILL_1 + "pass(30) = 0 entries() = 10 of(1, 5) = 0");
         says("After this the holds end whose last day is over.",
             ONE_RATE + "receive(1, 10000) hold(1, 6000, 29) hold(1, 4000, 30) pass(30) = 30 of(1, 0) = 10030 "
@@ -506,6 +522,9 @@ public final class BoundaryTest {
                 + "entry(2, 4) = 80",
             "open(7) setRates(FULL, 365, 0) receive(7, 10000) pass(45) entry(2, 0) = 30 entry(2, 2) = 7 "
                 + "entry(2, 3) = 0 entry(2, 4) = 30");
+    }
+
+    static void checkNumbers() {
         says("The check number of the entry 0, which does not exist, is 7; that of each other entry is (check number "
             + "of the entry before * 1009 + day * 31 + kind * 17 + client * 101 + second client * 103 + amount) modulo "
             + "1000003, computed without overflow.",
@@ -531,6 +550,9 @@ public final class BoundaryTest {
                 + "entry(1, 4) = NO_SUCH entry(2, 4) = 2 entry(25, 4) = 25 entry(26, 4) = NO_SUCH",
             "open(1) " + times(1, 49, "receive(1, #)") + "entry(25, 4) = NO_SUCH " + times(26, 49, "entry(#, 4) = #")
                 + "entry(50, 4) = NO_SUCH entry(1, 4) = NO_SUCH");
+    }
+
+    static void reversals() {
         says("A receipt, a payment or a transfer that is kept can be reversed once: its amount is moved back, and an "
             + "entry of the kind 6 is made with the same clients and the same amount.",
             "open(1) receive(1, 90) receive(1, 5) reverse(1) = 3 of(1, 0) = 5 entry(3, 1) = 6 entry(3, 2) = 1 "
@@ -544,7 +566,15 @@ public final class BoundaryTest {
             "open(1) receive(1, 7) 23 * receive(1, 1) reverse(1) = 25 of(1, 0) = 23 reverse(1) = NO_SUCH "
                 + "reverse(2) = 26 of(1, 0) = 22",
             "open(1) receive(1, 7) 24 * receive(1, 1) reverse(1) = NO_SUCH of(1, 0) = 31 reverse(2) = 26",
-            "open(1) receive(1, 7) reverse(1) = 2 undo() reverse(1) = 2 reverse(1) = NOT_POSSIBLE");
+            "open(1) receive(1, 7) reverse(1) = 2 undo() reverse(1) = 2 reverse(1) = NOT_POSSIBLE",
+            "open(1) open(2) receive(2, 90) transfer(2, 1, 60) reverse(2) = 3 of(2, 0) = 90 of(1, 0) = 0",
+            // a new entry is not reversed, where the one that it drives out was
+            "open(1) receive(1, 5) reverse(1) 22 * receive(1, 1) receive(1, 7) entry(25, 6) = 0 reverse(25) = 26 "
+                + "of(1, 0) = 22");
+        for (int i = 1; i <= 49; i++) {
+            run("open(1) # * receive(1, 1) entry(#, 6) = 0 reverse(#) entry(#, 6) = 1 reverse(#) = NOT_POSSIBLE"
+                .replace("#", Integer.toString(i)));
+        }
     }
 
     static void syntax(String text, long want) {
@@ -571,6 +601,19 @@ public final class BoundaryTest {
         }
     }
 
+    static final String LETTERS = "rptbsd";
+    static final String DIGITS = "0123456789";
+
+    // Of all characters, only these can go on a text that was begun well.
+    static void goOn(String begun, String signs) {
+        int length = begun.length();
+        for (int code = 33; code <= 126; code++) {
+            long got = ask((begun.isEmpty() ? "" : "write(" + begun + ") ") + "type(" + code + ") ", "syntaxError()");
+            boolean good = signs.indexOf(code) >= 0 ? got == -6 || got == length + 1 : got == length;
+            due(begun + (char) code + ": good or not", good ? 1 : 0, 1);
+        }
+    }
+
     static void textAndUndo() {
         says("There is a text of at most 80 characters, which is empty initially.",
             "syntaxError() = 0 clearText() = 0",
@@ -592,8 +635,7 @@ public final class BoundaryTest {
             "d", "d1;");
         broken("|R1:2", "|1", "|;d1", "|:", "|>", "|x1", "r|:1", "r|r", "r1|>2", "r1|;", "r1:|:", "r1:|;", "r1:2|:3",
             "p1|>2", "b1|>2", "b1|;", "t1|:2", "t1|;", "t1>|>", "t1>2|>3", "t1>2|;", "t1>2:3|:4", "t1>2:3|>4", "s|;",
-            "s1|:2",
-            "s1|>2", "d1|:2", "d1|>2", "d|-1", "d1|,d1", "d1;|;d1", "d1;|1", "s1|s1", "d1|.");
+            "s1|:2", "s1|>2", "d1|:2", "d1|>2", "d|-1", "d1|,d1", "d1;|;d1", "d1;|1", "s1|s1", "d1|.");
         says("A number has 1 to 6 digits; leading zeros are allowed.",
             "open(7) write(r000007:000005) carryOut() = 1 of(7, 0) = 5",
             "open(7) write(r7:999999;p07:099999;b007:1;s000001) carryOut() = 4 of(7, 0) = 899999",
@@ -601,8 +643,7 @@ public final class BoundaryTest {
                 + "day() = 400",
             "write(d000000) carryOut() = 0 day() = 0");
         whole("r1:1", "r123456:123456", "r000000:000000", "p123456:1", "p1:123456", "t123456>123456:123456",
-            "b123456:123456",
-            "s123456", "s000000", "d123456", "d0", "d000001");
+            "b123456:123456", "s123456", "s000000", "d123456", "d0", "d000001");
         broken("r|:1", "r123456|7:1", "r1:123456|7", "r000000|1:1", "p|:1", "p123456|7:1", "p1:123456|7", "t|>1:1",
             "t1>|:1", "t123456|7>1:1", "t1>123456|7:1", "t1>1:123456|7", "b|:1", "b123456|7:1", "b1:123456|7", "s|;",
             "s123456|7", "s000000|0", "d|;", "d123456|7", "d000000|1");
@@ -620,16 +661,14 @@ public final class BoundaryTest {
 
     static final String[] UNDOABLE = {
         "setRates(1, 2, 3)", "setThreshold(77)", "open(50)", "close(40)", "receive(1, 5)", "pay(1, 5)",
-        "transfer(1, 2, 5)",
-        "hold(1, 5, 5)", "release(1)", "bill(1, 5)", "settle(2)", "pass(30)", "reverse(2)", "carryOut()",
+        "transfer(1, 2, 5)", "hold(1, 5, 5)", "release(1)", "bill(1, 5)", "settle(2)", "pass(30)", "reverse(2)",
+        "carryOut()",
     };
 
     static final String[] NOT_UNDOABLE = {
         "day()", "clients()", "ranked(0, 0)", "ranked(1, 1)", "ranked(2, 2)", "ranked(3, 0)", "of(1, 3)",
-        "holdOf(1, 2)",
-        "billOf(2, 1)", "entries()", "entry(8, 5)", "sum(3)", "payableOn(1, 100)", "payableOn(1, MOST)",
-        "interestIn(1, 400)",
-        "syntaxError()", "digest()",
+        "holdOf(1, 2)", "billOf(2, 1)", "entries()", "entry(8, 5)", "sum(3)", "payableOn(1, 100)", "payableOn(1, MOST)",
+        "interestIn(1, 400)", "syntaxError()", "digest()",
     };
 
     static void undoSaves() {
@@ -652,8 +691,8 @@ public final class BoundaryTest {
             leaves(RICH, call);
             leaves(RICH + "undo() ", call);
         }
-        same("type(59) and clearText() save a state", portrait(RICH + "type(59) clearText() "),
-            portrait(RICH + "clearText() "));
+        leaves("open(1) receive(1, 5) ", "clearText()");
+        leaves("open(1) receive(1, 5) ", "type(59) clearText()");
         same("undo() saves a state", portrait("open(1) open(2) undo() "), portrait("open(1) "));
     }
 
@@ -682,11 +721,20 @@ public final class BoundaryTest {
             "open(1) receive(1, 9) pay(1, 9) undo() pay(1, 9) entry(2, 5) = 254833",
             "open(1) " + times(1, 25, "receive(1, #)") + "undo() entry(1, 4) = 1 entry(24, 4) = 24 "
                 + "entry(25, 4) = NO_SUCH reverse(1) = 25",
+            times(1, 12, "open(#)") + "close(12) open(99) undo() undo() ranked(0, 11) = 12 of(99, 0) = NO_SUCH",
             // but neither the text nor the saved states
             "write(s) open(1) write(1) undo() clearText() = 2",
             "write(s1) open(1) clearText() = 2 undo() clearText() = 0",
             "open(1) write(s1) carryOut() = 0 undo() = 1 clearText() = 0",
             "open(1) open(2) undo() = 1 undo() = 0 undo() = NOT_POSSIBLE clients() = 0");
+        undoes(CROWDED, "pass(400)");
+        undoes(CROWDED, "receive(12, 7)");
+        undoes(CROWDED, "transfer(11, 12, 7)");
+        undoes(CROWDED, "reverse(46)");
+        undoes(CROWDED, "release(1)");
+        undoes(CROWDED, "settle(1)");
+        restored(CROWDED, "release(15) hold(4, 50, 9) undo() undo() ");
+        restored(CROWDED, "settle(15) bill(11, 50) undo() undo() ");
     }
 
     static void errorCodes() {
@@ -773,7 +821,7 @@ public final class BoundaryTest {
 
     // ---- the promises
 
-    static void settings() {
+    static void newObject() {
         section("Promise 1: A new object");
         says("Creates a book without clients.",
             "clients() = 0 ranked(0, 0) = NO_SUCH ranked(1, 0) = NO_SUCH ranked(2, 0) = NO_SUCH ranked(3, 0) = NO_SUCH "
@@ -782,6 +830,9 @@ public final class BoundaryTest {
             times(0, 16, "holdOf(#, 0) = NO_SUCH billOf(#, 0) = NO_SUCH entry(#, 0) = NO_SUCH"),
             times(0, 5, "sum(#) = 0"),
             "setRates(1, 1, 1) = 100000 setThreshold(1) = 20");
+    }
+
+    static void setRates() {
         section("Promise 2: setRates");
         String one = "open(1) setThreshold(10000) receive(1, 10000) ";
         says("Changes the rates. Undoable.",
@@ -812,6 +863,9 @@ public final class BoundaryTest {
             one + "setRates(5, 5, MIN) = BAD_VALUE setRates(5, 5, MAX) = BAD_VALUE setRates(5, 5, -1) = BAD_VALUE "
                 + "setRates(5, 5, 2001) = BAD_VALUE",
             "setRates(MIN, MIN, MIN) = BAD_VALUE setRates(MAX, MAX, MAX) = BAD_VALUE undo() = NOT_POSSIBLE");
+    }
+
+    static void setThreshold() {
         section("Promise 3: setThreshold");
         String thirty = ONE_RATE + "receive(1, 10000) ";
         says("Changes the threshold. Undoable.",
@@ -829,7 +883,7 @@ public final class BoundaryTest {
                 + "setThreshold(MAX) = BAD_VALUE undo() = NOT_POSSIBLE setThreshold(1) = 20");
     }
 
-    static void accounts() {
+    static void open() {
         section("Promise 4: open");
         says("Opens an account for a client. Undoable.",
             "open(7) = 1 of(7, 0) = 0 of(7, 1) = 0 of(7, 2) = 0 of(7, 3) = 0 of(7, 4) = 0 of(7, 5) = 0 of(7, 6) = 0 "
@@ -851,6 +905,9 @@ public final class BoundaryTest {
         says("LIMIT if there are 12 clients",
             times(1, 11, "open(#)") + "open(50) = 12 open(51) = LIMIT open(99) = LIMIT clients() = 12",
             times(1, 12, "open(#)") + "open(13) = LIMIT undo() open(13) = 12 open(12) = LIMIT");
+    }
+
+    static void close() {
         section("Promise 5: close");
         says("Closes the account of a client; what its count of interest has is lost. Undoable.",
             "open(1) open(2) open(3) receive(3, 5) close(2) = 2 of(2, 0) = NO_SUCH of(1, 0) = 0 of(3, 0) = 5 "
@@ -880,7 +937,7 @@ public final class BoundaryTest {
             "open(1) open(2) bill(2, 1) close(1) = 1 close(2) = NOT_POSSIBLE");
     }
 
-    static void receiveAndPay() {
+    static void receive() {
         section("Promise 6: receive");
         says("Receives an amount for a client. Undoable.",
             "open(1) open(2) receive(1, 70) = 70 of(1, 0) = 70 of(2, 0) = 0 sum(4) = 70 entry(1, 1) = 1 "
@@ -904,6 +961,9 @@ public final class BoundaryTest {
                 + "receive(1, 1) = LIMIT",
             "open(1) " + FILL_1 + "of(1, 0) = FULL receive(1, 1) = LIMIT receive(1, MOST) = LIMIT entries() = 10 "
                 + "pay(1, 1) receive(1, 2) = LIMIT receive(1, 1) = FULL");
+    }
+
+    static void pay() {
         section("Promise 7: pay");
         says("Pays an amount for a client. Undoable.",
             "open(1) open(2) receive(1, 70) receive(2, 80) pay(1, 30) = 40 of(2, 0) = 80 sum(5) = 30 entry(3, 1) = 2 "
@@ -930,7 +990,7 @@ public final class BoundaryTest {
             "open(1) open(2) receive(1, 9) receive(2, 9) hold(2, 9, 2) pay(1, 9) = 0 pay(2, 1) = NOT_POSSIBLE");
     }
 
-    static void transferAndHold() {
+    static void transfer() {
         section("Promise 8: transfer");
         String two = "open(1) open(2) receive(1, 100) ";
         says("Transfers an amount from a client to another one. Undoable.",
@@ -964,6 +1024,9 @@ public final class BoundaryTest {
             "open(1) open(2) " + FILL_1 + "receive(2, 100) transfer(2, 1, 1) = LIMIT pay(1, 60) "
                 + "transfer(2, 1, 61) = LIMIT transfer(2, 1, 60) = 40 of(1, 0) = FULL transfer(2, 1, 1) = LIMIT "
                 + "transfer(1, 2, 1) = 999999999");
+    }
+
+    static void hold() {
         section("Promise 9: hold");
         String one = "open(1) receive(1, 100) ";
         says("Holds a sum of a client. Undoable.",
@@ -1003,7 +1066,7 @@ public final class BoundaryTest {
             one + "open(2) receive(2, 5) 15 * hold(1, 1, 5) hold(2, 1, 1) = LIMIT sum(1) = 15");
     }
 
-    static void releaseAndBills() {
+    static void release() {
         section("Promise 10: release");
         String one = "open(1) receive(1, 100) ";
         says("Releases a hold. Undoable.",
@@ -1022,7 +1085,11 @@ public final class BoundaryTest {
             one + "hold(1, 30, 2) release(0) = NO_SUCH release(-1) = NO_SUCH release(2) = NO_SUCH "
                 + "release(MIN) = NO_SUCH release(MAX) = NO_SUCH pass(2) release(1) = 100 release(1) = NO_SUCH",
             one + "hold(1, 30, 2) pass(3) release(1) = NO_SUCH");
+    }
+
+    static void bill() {
         section("Promise 11: bill");
+        String one = "open(1) receive(1, 100) ";
         says("Writes a bill for a client. Undoable.",
             one + "open(2) bill(1, 30) = 1 billOf(1, 0) = 1 billOf(1, 1) = 30 billOf(1, 2) = 0 of(1, 4) = 30 "
                 + "of(1, 7) = 1 of(2, 7) = 0 of(1, 0) = 100 of(1, 2) = 100 sum(2) = 0 entries() = 1");
@@ -1043,7 +1110,11 @@ public final class BoundaryTest {
         says("LIMIT if there are 15 open bills.",
             "open(1) open(2) 14 * bill(1, 9) bill(2, 9) = 15 bill(1, 9) = LIMIT bill(2, 9) = LIMIT of(1, 7) = 14 "
                 + "receive(2, 8) settle(15) = 8 bill(2, 9) = LIMIT receive(2, 1) settle(15) = 1 bill(2, 9) = 16");
+    }
+
+    static void settle() {
         section("Promise 12: settle");
+        String one = "open(1) receive(1, 100) ";
         says("Settles a bill as far as possible. Undoable.",
             one + "bill(1, 130) settle(1) = 100 billOf(1, 1) = 30 receive(1, 29) settle(1) = 29 billOf(1, 1) = 1 "
                 + "billOf(1, 2) = 129 receive(1, 5) settle(1) = 1 billOf(1, 1) = NO_SUCH of(1, 0) = 4 sum(2) = 130 "
@@ -1069,7 +1140,7 @@ public final class BoundaryTest {
                 + "settle(1) = 5");
     }
 
-    static void passDays() {
+    static void pass() {
         section("Promise 13: pass");
         String thirty = ONE_RATE + "receive(1, 10000) ";
         says("Lets days pass. Undoable.",
@@ -1103,11 +1174,20 @@ public final class BoundaryTest {
     static void reverse() {
         section("Promise 14: reverse");
         String two = "open(1) open(2) receive(1, 100) ";
+        String three = "open(1) open(2) open(3) receive(1, 10) receive(2, 20) receive(3, 30) ";
         says("Reverses an entry. Undoable.",
             two + "reverse(1) = 2 of(1, 0) = 0 sum(4) = 0 entry(1, 6) = 1 entry(2, 6) = 0 entry(2, 1) = 6",
             two + "pay(1, 30) reverse(2) = 3 of(1, 0) = 100 sum(5) = 0 entry(1, 6) = 0 entry(2, 6) = 1",
             two + "transfer(1, 2, 30) reverse(2) = 3 of(1, 0) = 100 of(2, 0) = 0 sum(4) = 100 sum(5) = 0 "
-                + "entry(2, 6) = 1");
+                + "entry(2, 6) = 1",
+            // nobody else gets or gives anything
+            three + "reverse(1) of(1, 0) = 0 of(2, 0) = 20 of(3, 0) = 30",
+            three + "reverse(2) of(1, 0) = 10 of(2, 0) = 0 of(3, 0) = 30",
+            three + "reverse(3) of(1, 0) = 10 of(2, 0) = 20 of(3, 0) = 0",
+            three + "pay(1, 5) reverse(4) of(1, 0) = 10 of(2, 0) = 20 of(3, 0) = 30",
+            three + "pay(3, 5) reverse(4) of(1, 0) = 10 of(2, 0) = 20 of(3, 0) = 30",
+            three + "transfer(1, 3, 5) reverse(4) of(1, 0) = 10 of(2, 0) = 20 of(3, 0) = 30",
+            three + "transfer(3, 2, 5) reverse(4) of(1, 0) = 10 of(2, 0) = 20 of(3, 0) = 30");
         undoes(two + "pay(1, 5) ", "reverse(2)");
         undoes(two + "transfer(1, 2, 5) ", "reverse(2)");
         undoes(two, "reverse(1)");
@@ -1123,6 +1203,10 @@ public final class BoundaryTest {
             "open(1) 25 * receive(1, 1) reverse(1) = NO_SUCH reverse(2) = 26",
             "open(1) 49 * receive(1, 1) reverse(25) = NO_SUCH reverse(1) = NO_SUCH reverse(26) = 50 "
                 + "reverse(26) = NO_SUCH");
+    }
+
+    static void reverseRefused() {
+        String two = "open(1) open(2) receive(1, 100) ";
         says("NOT_POSSIBLE if it is of the kind 4, 5 or 6",
             two + "bill(1, 5) settle(1) reverse(2) = NOT_POSSIBLE",
             two + "pay(1, 5) reverse(2) reverse(3) = NOT_POSSIBLE",
@@ -1145,6 +1229,8 @@ public final class BoundaryTest {
             two + "receive(1, 5) hold(1, 5, 9) reverse(1) = 3 of(1, 2) = 0",
             two + "transfer(1, 2, 60) pay(2, 1) reverse(2) = NOT_POSSIBLE receive(2, 1) hold(2, 1, 9) "
                 + "reverse(2) = NOT_POSSIBLE release(1) reverse(2) = 5 of(1, 0) = 100",
+            "open(1) open(2) receive(2, 90) transfer(2, 1, 60) pay(1, 1) reverse(2) = NOT_POSSIBLE receive(1, 1) "
+                + "reverse(2) = 5 of(2, 0) = 90 of(1, 0) = 0",
             // what is held of the client who gets it back is no hindrance
             two + "pay(1, 60) hold(1, 40, 9) reverse(2) = 3 of(1, 2) = 60",
             two + "transfer(1, 2, 60) hold(1, 40, 9) reverse(2) = 3 of(1, 2) = 60");
@@ -1153,14 +1239,21 @@ public final class BoundaryTest {
                 + "of(1, 0) = FULL",
             "open(1) open(2) " + FILL_1 + "transfer(1, 2, 50) receive(1, 1) reverse(11) = LIMIT pay(1, 1) "
                 + "reverse(11) = 14 of(1, 0) = FULL of(2, 0) = 0",
+            "open(1) open(2) 10 * receive(2, MOST) pay(2, 50) receive(2, 1) reverse(11) = LIMIT pay(2, 1) "
+                + "reverse(11) = 14 of(2, 0) = FULL",
+            "open(1) open(2) 10 * receive(2, MOST) transfer(2, 1, 50) receive(2, 1) reverse(11) = LIMIT pay(2, 1) "
+                + "reverse(11) = 14 of(2, 0) = FULL",
             "open(1) " + FILL_1 + "reverse(1) = 11 of(1, 0) = 900000000");
     }
 
-    static void dayAndClients() {
+    static void day() {
         section("Promise 15: day");
         says("Returns the current day.",
             "day() = 0 pass(1) day() = 1 pass(400) day() = 401 pass(0) = BAD_VALUE day() = 401 undo() day() = 1",
             TO_THE_END + "day() = 9999");
+    }
+
+    static void clients() {
         section("Promise 16: clients");
         says("Returns the number of clients.",
             "clients() = 0 open(5) clients() = 1 open(5) = NOT_POSSIBLE clients() = 1 open(6) clients() = 2 close(5) "
@@ -1283,7 +1376,7 @@ public final class BoundaryTest {
                 + "of(4, 0) = 100 of(4, 7) = 0");
     }
 
-    static void holdsBillsAndEntries() {
+    static void holdOf() {
         section("Promise 19: holdOf");
         String held = "open(4) open(6) receive(4, 100) receive(6, 90) pass(2) hold(6, 40, 3) hold(4, 50, 4) ";
         says("Returns something about a hold.",
@@ -1301,6 +1394,9 @@ public final class BoundaryTest {
         says("BAD_VALUE if what is out of range.",
             held + "holdOf(2, -1) = BAD_VALUE holdOf(2, 3) = BAD_VALUE holdOf(2, MIN) = BAD_VALUE "
                 + "holdOf(2, MAX) = BAD_VALUE");
+    }
+
+    static void billOf() {
         section("Promise 20: billOf");
         String billed = "open(4) open(6) receive(4, 100) receive(6, 90) bill(6, 91) bill(4, 50) settle(1) ";
         says("Returns something about an open bill.",
@@ -1320,11 +1416,17 @@ public final class BoundaryTest {
         says("BAD_VALUE if what is out of range.",
             billed + "billOf(2, -1) = BAD_VALUE billOf(2, 3) = BAD_VALUE billOf(2, MIN) = BAD_VALUE "
                 + "billOf(2, MAX) = BAD_VALUE");
+    }
+
+    static void entries() {
         section("Promise 21: entries");
         says("Returns the number of entries that were made so far.",
             "entries() = 0 open(1) entries() = 0 receive(1, 5) entries() = 1 receive(1, 0) = BAD_VALUE entries() = 1 "
                 + "undo() entries() = 0",
             "open(1) 24 * receive(1, 1) entries() = 24 receive(1, 1) entries() = 25 25 * receive(1, 1) entries() = 50");
+    }
+
+    static void entry() {
         section("Promise 22: entry");
         String made = "open(4) open(6) pass(2) receive(4, 100) pass(1) transfer(4, 6, 30) pass(1) reverse(2) ";
         says("Returns something about an entry.", made + "entry(1, 4) = 100 entry(2, 4) = 30 entry(3, 1) = 6");
@@ -1352,7 +1454,7 @@ public final class BoundaryTest {
                 + "entry(3, MAX) = BAD_VALUE");
     }
 
-    static void sums() {
+    static void sum() {
         section("Promise 23: sum");
         says("Returns a sum.", times(0, 5, "sum(#) = 0"),
             "open(1) receive(1, 5) sum(0) = 5 sum(4) = 5 undo() sum(0) = 0 sum(4) = 0");
@@ -1390,7 +1492,7 @@ public final class BoundaryTest {
             "sum(-1) = BAD_VALUE sum(6) = BAD_VALUE sum(MIN) = BAD_VALUE sum(MAX) = BAD_VALUE");
     }
 
-    static void forecasts() {
+    static void payableOn() {
         section("Promise 24: payableOn");
         String still = "open(1) setRates(0, 0, 0) pass(4) receive(1, 100) ";
         says("Finds the first day on which the free sum of a client would be at least an amount, if only days pass.",
@@ -1432,6 +1534,9 @@ public final class BoundaryTest {
             "open(1) payableOn(1, 1) = NONE receive(1, 1) payableOn(1, 1) = 0 payableOn(1, 2) = NONE "
                 + "payableOn(1, MOST) = NONE",
             still + "hold(1, 100, 400) payableOn(1, 1) = NONE");
+    }
+
+    static void interestIn() {
         section("Promise 25: interestIn");
         String thirty = ONE_RATE + "receive(1, 10000) ";
         says("Returns the interest that would be credited to a client if days passed.",
@@ -1461,7 +1566,7 @@ public final class BoundaryTest {
                 + "interestIn(1, MIN) = BAD_VALUE interestIn(1, MAX) = BAD_VALUE");
     }
 
-    static void texts() {
+    static void type() {
         section("Promise 26: type");
         says("Appends a character to the text.",
             "type(100) = 1 type(51) = 2 carryOut() = 1 day() = 3",
@@ -1477,40 +1582,56 @@ public final class BoundaryTest {
         says("LIMIT if the text has 80 characters.",
             "write(" + DAYS_80.substring(1) + ") = 79 type(59) = 80 type(59) = LIMIT type(33) = LIMIT type(126) = "
                 + "LIMIT clearText() = 80");
+    }
+
+    static void clearText() {
         section("Promise 27: clearText");
         says("Makes the text empty.",
             "write(d1) clearText() = 2 syntaxError() = 0 carryOut() = BAD_TEXT write(d2) carryOut() = 1 day() = 2");
         says("Returns the previous length of the text.",
             "clearText() = 0 type(33) clearText() = 1 clearText() = 0 write(" + DAYS_80
                 + ") clearText() = 80 clearText() = 0");
+    }
+
+    static void syntaxError() {
         section("Promise 28: syntaxError");
         says("Finds the first syntax error of the text.",
+            "type(120) syntaxError() = 0 type(120) syntaxError() = 0",
             "write(s1) syntaxError() = NONE type(58) syntaxError() = 2 type(58) syntaxError() = 2 clearText() = 4 "
                 + "type(114) syntaxError() = 1");
         says("Returns the index of the first character for which no order list, of any length, begins with the "
             + "characters of the text up to and including this one");
-        broken("|x", "|;", "|1s", "r|x", "r1|x1", "r1:2|x", "s1;|x", "s1;r1:2;t1>2|;xx", "r123456|78:1", "s1|.;s1",
-            DAYS_80.substring(0, 79) + "|x");
-        for (String word : new String[] {"r1:2;", "p1:2;", "t1>2:3;", "b1:2;", "s1;", "d1;"}) {
-            for (int i = 0; i < word.length(); i++) {
-                broken(word.substring(0, i) + "|!", "s1;" + word.substring(0, i) + "|!" + word.substring(i));
+        broken("|x;x", "s1;|x;x", "r|:1", "r1:|;", "r1:2|:3", "t1>2|;3:4", "s1;r1:2;t1>2|;xx", "r123456|78:1",
+            DAYS_80.substring(0, 79) + "|x", "d1;" + DAYS_80.substring(0, 75) + "s|;");
+        goOn("", LETTERS);
+        for (String order : new String[] {"r1:2", "p1:2", "t1>2:3", "b1:2", "s1", "d1"}) {
+            goOn(order + ";", LETTERS);
+            for (int i = 1; i <= order.length(); i++) {
+                String begun = order.substring(0, i);
+                String sign = order.length() == i ? ";" : order.substring(i, i + 1);
+                boolean number = Character.isDigit(begun.charAt(i - 1));
+                goOn(begun, number ? DIGITS + sign : DIGITS);
+                if (number) {
+                    goOn(begun + "0000", DIGITS + sign);
+                    goOn(begun + "00000", sign);
+                }
             }
         }
         says("the length of the text if there is no such character but the text is not an order list (this holds for "
             + "the empty text)",
             "syntaxError() = 0", "write(s1) clearText() syntaxError() = 0", "write(s1) carryOut() syntaxError() = 0");
         // the last two could only go on beyond 80 characters
-        unfinished("r", "t1>2", "s1;", "r1:2;p", "d123456;d", DAYS_80.substring(0, 78), DAYS_80.substring(0, 79),
+        unfinished("r", "t1>2", "r1:2;", "p1:2;", "t1>2:3;", "b1:2;", "s1;", "d1;", "r1:2;p", "d123456;d",
+            DAYS_80.substring(0, 78), DAYS_80.substring(0, 79),
             DAYS_80.substring(0, 78) + "s",
             DAYS_80.substring(0, 78) + "r1", "d11;" + DAYS_80.substring(0, 75) + "d");
         says("NONE if the text is an order list.");
         whole("r1:2", "p1:2", "t1>2:3", "b1:2", "s1", "d1", "d1;d1", DAYS_80,
             "t123456>123456:123456;r000000:000000;p999999:0", "s0", "t1>1:0");
-        section("Promise 29: carryOut");
-        carryOut();
     }
 
     static void carryOut() {
+        section("Promise 29: carryOut");
         String two = "open(1) open(2) receive(1, 100) ";
         says("Carries out the orders of the text from left to right, up to the first one whose method (receive, pay, "
             + "transfer, bill, settle or pass) would return an error code.",
@@ -1626,7 +1747,7 @@ public final class BoundaryTest {
         hash("");
         says("For each value v of the following list, in order, the hash becomes 31 * hash + v, in long arithmetic "
             + "with overflow.");
-        hash("open(1) open(99) " + FILL_1 + "10 * receive(99, MOST) ");
+        hash("open(1) open(50) open(99) " + FILL_1 + "10 * receive(50, MOST) 10 * receive(99, MOST) ");
         hash(times(1, 12, "open(#) receive(#, MOST)") + "20 * pass(400) ");
         says("The list is: day(); clients(); for each client, by ascending numbers, its number, and its numbers 0 to "
             + "7;");
@@ -1716,29 +1837,48 @@ public final class BoundaryTest {
         clientsAndDays();
         holdsAndBills();
         interest();
+        credits();
         trail();
+        checkNumbers();
+        reversals();
         textAndUndo();
         errorCodes();
         constants();
-        settings();
-        accounts();
-        receiveAndPay();
-        transferAndHold();
-        releaseAndBills();
-        passDays();
+        newObject();
+        setRates();
+        setThreshold();
+        open();
+        close();
+        receive();
+        pay();
+        transfer();
+        hold();
+        release();
+        bill();
+        settle();
+        pass();
         reverse();
-        dayAndClients();
+        reverseRefused();
+        day();
+        clients();
         ranked();
         of();
-        holdsBillsAndEntries();
-        sums();
-        forecasts();
-        texts();
+        holdOf();
+        billOf();
+        entries();
+        entry();
+        sum();
+        payableOn();
+        interestIn();
+        type();
+        clearText();
+        syntaxError();
+        carryOut();
         undo();
         digest();
         document();
-        System.out.println(wrong == 0 ? checks + " checks are as due" : wrong + " of " + checks + " checks are not as "
-            + "due");
+        String of = wrong == 0 ? "" : wrong + " of ";
+        System.out.println(of + checks + (wrong == 0 ? " checks are as due" : " checks are not as due"));
         if (wrong != 0) {
             System.exit(1);
         }
