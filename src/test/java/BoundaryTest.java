@@ -1221,7 +1221,14 @@ public final class BoundaryTest {
                 + "reverse(1) = 4",
             two + "transfer(1, 2, 100) close(1) reverse(2) = NOT_POSSIBLE open(1) reverse(2) = 3 of(1, 0) = 100",
             two + "transfer(1, 2, 9) pay(2, 9) close(2) reverse(2) = NOT_POSSIBLE open(2) receive(2, 9) reverse(2) = 5 "
-                + "of(2, 0) = 0");
+                + "of(2, 0) = 0",
+            // a client that was opened again has an account, and what is on it decides
+            two + "pay(1, 100) close(1) open(1) reverse(1) = NOT_POSSIBLE receive(1, 99) reverse(1) = NOT_POSSIBLE "
+                + "receive(1, 1) reverse(1) = 5 of(1, 0) = 0 sum(4) = 100",
+            two + "pay(1, 100) close(1) open(1) " + FILL_1 + "reverse(2) = LIMIT pay(1, MOST) reverse(2) = 14 "
+                + "of(1, 0) = 900000100",
+            two + "transfer(1, 2, 9) pay(1, 91) close(1) pay(2, 9) close(2) open(2) reverse(2) = NOT_POSSIBLE open(1) "
+                + "reverse(2) = NOT_POSSIBLE receive(2, 9) reverse(2) = 6 of(1, 0) = 9 of(2, 0) = 0");
         says("or if the free sum of the client from which the amount would be moved is less than the amount",
             two + "pay(1, 1) reverse(1) = NOT_POSSIBLE receive(1, 1) reverse(1) = 4 of(1, 0) = 0",
             two + "receive(1, 5) hold(1, 6, 2) reverse(1) = NOT_POSSIBLE pass(2) reverse(1) = NOT_POSSIBLE pass(1) "
@@ -1681,7 +1688,20 @@ public final class BoundaryTest {
                 + "clients() = 0",
             "open(1) receive(1, 5) receive(1, 6) undo() = 2 receive(1, 7) = 12 undo() = 2 of(1, 0) = 5 undo() = 1 "
                 + "of(1, 0) = 0",
-            "open(1) receive(1, 5) receive(1, 0) = BAD_VALUE undo() = 1 of(1, 0) = 0");
+            "open(1) receive(1, 5) receive(1, 0) = BAD_VALUE undo() = 1 of(1, 0) = 0",
+            // the state from before a hold or a bill is one in which its number has not been used
+            "open(1) open(2) receive(1, 9) receive(2, 9) hold(1, 4, 5) = 1 undo() holdOf(1, 0) = NO_SUCH "
+                + "hold(2, 3, 5) = 1 holdOf(1, 0) = 2 holdOf(1, 1) = 3",
+            "open(1) receive(1, 9) hold(1, 1, 5) = 1 hold(1, 2, 5) = 2 release(2) hold(1, 3, 5) = 3 undo() undo() "
+                + "hold(1, 4, 5) = 3 undo() undo() hold(1, 5, 5) = 2",
+            "open(1) open(2) bill(1, 4) = 1 undo() billOf(1, 0) = NO_SUCH bill(2, 3) = 1 billOf(1, 0) = 2 "
+                + "billOf(1, 1) = 3",
+            "open(1) receive(1, 9) bill(1, 1) = 1 bill(1, 2) = 2 settle(2) bill(1, 3) = 3 undo() undo() "
+                + "bill(1, 4) = 3 undo() undo() bill(1, 5) = 2",
+            "open(1) write(b1:5;b1:6) carryOut() = 2 undo() bill(1, 7) = 1 billOf(2, 0) = NO_SUCH",
+            // so it is with the numbers of entries
+            "open(1) receive(1, 992821) receive(1, 5) undo() pay(1, 7) entries() = 2 entry(2, 1) = 2 "
+                + "reverse(2) = 3");
         says("Returns the number of saved states that are left",
             times(1, 5, "open(#)") + "undo() = 4 undo() = 3 open(9) undo() = 3 undo() = 2 undo() = 1 undo() = 0",
             times(1, 6, "open(#)") + "undo() = 5", times(1, 7, "open(#)") + "undo() = 5",
